@@ -49,7 +49,6 @@ public final class RunKeeper {
             throw new IllegalStateException("a batch is begun");
         }
         inBatch = true;
-        aside.cutTo(0);
     }
 
     public int end(boolean commit) throws IllegalStateException, IndexOutOfBoundsException {

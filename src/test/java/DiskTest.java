@@ -14,6 +14,7 @@ public final class DiskTest {
         test.mergeWantsFourRuns();
         test.mergeTakesAllRuns();
         test.mergeGoesLevelByLevel();
+        test.mergeLeavesTheLastLevelAlone();
         test.mergeTakesTheLeastLevelFirst();
         test.mergeKeepsTheGreatestOfAKey();
         test.mergeKeepsWhatSnapshotsSee();
@@ -126,6 +127,20 @@ public final class DiskTest {
         due.is(64, () -> x.count(1, 3));
         due.is(63, () -> x.entry(3, 0, 63, 0));
         due.is(17, () -> x.get(-1, 17));
+    }
+
+    // Four runs of level 5 need far more than the 512 calls that the document speaks of, and so what is
+    // answered there is free: this says that merging ends at that level all the same.
+    private void mergeLeavesTheLastLevelAlone() {
+        RunKeeper x = new RunKeeper();
+        for (int i = 0; i < 5 * 1024; i++) {
+            Fill.putRuns(x, 1);
+            x.merge(100);
+        }
+        due.is(5, () -> x.count(0, 5));
+        due.is(5, () -> x.count(9, 0));
+        due.is(0, () -> x.merge(100));
+        due.same("1:2048", Fill.run(x, 5, 1));
     }
 
     private void mergeTakesTheLeastLevelFirst() {

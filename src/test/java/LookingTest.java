@@ -20,6 +20,7 @@ public final class LookingTest {
         test.nextFindsTheLeastKey();
         test.nextPassesByDeletedKeys();
         test.nextSeesAsOfASnapshot();
+        test.nextForgetsWhatIsGone();
         test.nextRefusesWrongArguments();
         test.nextDoesNotProbe();
         test.entryTellsAllOfARun();
@@ -191,6 +192,18 @@ public final class LookingTest {
         due.is(3, () -> x.next(2, 0));
         due.is(-1, () -> x.next(2, 4));
         due.is(4, () -> x.next(-1, 4));
+    }
+
+    private void nextForgetsWhatIsGone() {
+        RunKeeper x = new RunKeeper();
+        x.put(1023, 1);
+        x.sync();
+        x.put(0, 1);
+        x.put(9, 1);
+        due.is(0, () -> x.next(-1, 0));
+        x.crash();
+        due.is(1023, () -> x.next(-1, 0));
+        due.is(1023, () -> x.next(-1, 9));
     }
 
     private void nextRefusesWrongArguments() {
