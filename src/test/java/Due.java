@@ -11,9 +11,15 @@ final class Due {
     private final String test;
     private int seen = 0;
     private int wrong = 0;
+    private String sentence = "";
 
     Due(String test) {
         this.test = test;
+    }
+
+    /** Names the sentence of the document that the answers from here on are due by. */
+    void by(String words) {
+        sentence = ", by \"" + words + "\"";
     }
 
     /** The answer of a call: what it returned as a text, or the name of what it threw. */
@@ -46,7 +52,7 @@ final class Due {
         seen++;
         if (!want.equals(got)) {
             wrong++;
-            System.out.println(test + ", " + place() + ": answered " + got + ", due is " + want);
+            System.out.println(test + ", " + place() + ": answered " + got + ", due is " + want + sentence);
         }
     }
 
@@ -64,7 +70,7 @@ final class Due {
 
     private static String place() {
         return StackWalker.getInstance().walk(frames -> frames
-                .filter(frame -> !frame.getClassName().equals("Due"))
+                .filter(frame -> frame.getClassName().endsWith("Test"))
                 .findFirst().map(frame -> frame.getMethodName() + " line " + frame.getLineNumber()).orElse("?"));
     }
 }

@@ -26,6 +26,25 @@ final class Fill {
         }
     }
 
+    /** An object with so many entries; with 600 it has had more than the 512 calls that are spoken of. */
+    static RunKeeper withEntries(int howMany) {
+        RunKeeper x = new RunKeeper();
+        putKeys(x, 0, howMany);
+        return x;
+    }
+
+    /** Begins a batch and puts the keys from one on in it. */
+    static void batchOf(RunKeeper x, int from, int howMany) {
+        x.batch();
+        putKeys(x, from, howMany);
+    }
+
+    /** Numbers that are no more in a range: next to it, far from it, and the least and the greatest int. */
+    static int[] outside(int least, int greatest) {
+        return new int[] {least - 1, least - 2, greatest + 1, greatest + 2, -65536, 65536, 1 << 30,
+            Integer.MIN_VALUE, Integer.MIN_VALUE + 1, Integer.MAX_VALUE - 1, Integer.MAX_VALUE};
+    }
+
     /** The keys 100, 200 .. 800 in the table: eight entries, so that the filter of their run has 64 bits. */
     static RunKeeper hundreds() {
         RunKeeper x = new RunKeeper();

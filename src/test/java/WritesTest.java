@@ -112,14 +112,8 @@ public final class WritesTest {
 
     // 600 entries need more than the 512 calls that the document speaks of, and so what is answered
     // there is free: these tests say that the limit stands where its words put it all the same.
-    private static RunKeeper withEntries(int howMany) {
-        RunKeeper x = new RunKeeper();
-        Fill.putKeys(x, 0, howMany);
-        return x;
-    }
-
     private void putRefusesAtSixHundred() {
-        RunKeeper x = withEntries(599);
+        RunKeeper x = Fill.withEntries(599);
         due.is(600, () -> x.put(1, 1));
         due.refuses(BOUNDS, () -> x.put(1, 1));
         due.refuses(ARGUMENT, () -> x.put(1024, 1));
@@ -153,7 +147,7 @@ public final class WritesTest {
     }
 
     private void deleteRefusesAtSixHundred() {
-        RunKeeper x = withEntries(599);
+        RunKeeper x = Fill.withEntries(599);
         due.is(600, () -> x.delete(0));
         due.refuses(BOUNDS, () -> x.delete(0));
         due.refuses(ARGUMENT, () -> x.delete(-1));
@@ -277,7 +271,7 @@ public final class WritesTest {
     }
 
     private void endRefusesBeyondSixHundred() {
-        RunKeeper x = withEntries(599);
+        RunKeeper x = Fill.withEntries(599);
         x.batch();
         due.is(1, () -> x.put(1, 1));
         due.is(2, () -> x.put(2, 2));
