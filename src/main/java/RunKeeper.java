@@ -281,9 +281,10 @@ public final class RunKeeper {
             if (candidate != null && isSeen(candidate, gathered.at(i - 1))) {
                 kept.add(candidate);
             }
-            // Behind the last gathered entry of a key all that is kept of the key is known.
+            // Behind the last gathered entry of a key all that is kept of the key is known. The cut stays in
+            // the key, as what is kept of the keys before ends with a number since their own cuts.
             if (nothingOlder && candidate != null && !candidate.hasKeyOf(gathered.at(i + 1))) {
-                kept.cutDeletedTail(candidate.key);
+                kept.cutDeletedTail();
             }
         }
     }
@@ -423,8 +424,8 @@ public final class RunKeeper {
             }
         }
 
-        void cutDeletedTail(int key) {
-            while (size > 0 && slots[size - 1].deleted && slots[size - 1].key == key) {
+        void cutDeletedTail() {
+            while (size > 0 && slots[size - 1].deleted) {
                 size--;
             }
         }

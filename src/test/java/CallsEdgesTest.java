@@ -192,11 +192,12 @@ public final class CallsEdgesTest extends Edges {
         due.by("how many writes were done");
         for (int size = 0; size <= 16; size++) {
             RunKeeper x = new RunKeeper();
+            Fill.putKeys(x, 0, 2);
             Fill.batchOf(x, 0, size);
             int writes = size;
             due.is(writes, () -> x.end(true));
-            due.is(writes, () -> x.count(2, 0));
-            due.is(writes, () -> x.count(4, 0));
+            due.is(2 + writes, () -> x.count(2, 0));
+            due.is(2 + writes, () -> x.count(4, 0));
             due.is(-1, () -> x.count(8, 0));
         }
     }
@@ -514,6 +515,7 @@ public final class CallsEdgesTest extends Edges {
             due.refuses(ARGUMENT, () -> x.entry(0, 0, 0, what));
             due.refuses(ARGUMENT, () -> x.entry(5, -1, -1, what));
         }
+        due.refuses(BOUNDS, () -> x.entry(5, 0, 0, 2));
         due.is(5, () -> x.entry(0, 0, 0, 0));
         due.is(1, () -> x.entry(0, 0, 0, 1));
         due.is(0, () -> x.entry(0, 0, 0, 2));

@@ -7,6 +7,7 @@ public final class ModelTest {
     private static final int RUNS = 1500;
     private static final int MOST_CALLS = 512;
     private static final int[] KEY_RANGES = {3, 12, 60, 400, 1024};
+    private static final int[] NO_KEYS = {-1, 1024, Integer.MIN_VALUE, Integer.MAX_VALUE};
 
     private final Due due = new Due("ModelTest");
     private final Random dice;
@@ -118,7 +119,7 @@ public final class ModelTest {
     }
 
     private int key() {
-        return dice.nextInt(60) == 0 ? dice.nextBoolean() ? -1 : 1024 : dice.nextInt(keys) * spread;
+        return dice.nextInt(60) == 0 ? NO_KEYS[dice.nextInt(NO_KEYS.length)] : dice.nextInt(keys) * spread;
     }
 
     private void write() {

@@ -9,6 +9,7 @@ public final class RefusedEdgesTest extends Edges {
                 test::endNamesTheBatchFirst,
                 test::getNamesItsArgumentsFirst,
                 test::entryNamesItsArgumentsFirst,
+                test::aRichStateHasSomethingOfEach,
                 test::refusedWritesChangeNothing,
                 test::refusedBatchesChangeNothing,
                 test::refusedMergesChangeNothing,
@@ -70,20 +71,34 @@ public final class RefusedEdgesTest extends Edges {
 
     /** Every kind of state at once, but for a batch: runs of two levels, snapshots, safe and other writes, probes. */
     private static RunKeeper rich() {
-        RunKeeper x = Fill.hundreds();
-        x.flush();
-        Fill.putRuns(x, 1, 2, 2);
+        RunKeeper x = new RunKeeper();
+        Fill.putRuns(x, 1, 2, 1, 2);
         x.merge(1);
         x.snapshot();
         Fill.deleteRuns(x, 1);
-        Fill.putRuns(x, 1023, 2, 0);
+        Fill.putRuns(x, 1023, 2);
         x.snapshot();
+        for (int key = 100; key <= 800; key += 100) {
+            x.put(key, key);
+        }
+        x.flush();
         x.put(0, 50);
         x.sync();
         x.put(2, 60);
         // Key 114 is not there, but the filter of the hundreds has it.
         Due.answerOf(() -> x.get(-1, 114));
         return x;
+    }
+
+    private void aRichStateHasSomethingOfEach() {
+        due.by("A call that throws changes nothing but what is said there.");
+        isProbed(rich(), 1, 1);
+        hasInMemory(rich(), 2, 1);
+        due.is(4, () -> rich().count(0, 0));
+        due.is(1, () -> rich().count(0, 1));
+        due.is(2, () -> rich().count(7, 0));
+        due.is(3, () -> richWithBatch(3).count(8, 0));
+        due.is(6, () -> richWithSnapshots().count(7, 0));
     }
 
     private static RunKeeper richWithBatch(int writes) {
