@@ -62,7 +62,7 @@ public final class RunKeeper {
         for (int i = 0; i < writes; i++) {
             appendToTable(aside.at(i));
         }
-        flushTableFrom(FULL_TABLE);
+        flushTableIfItHas(FULL_TABLE);
         dropBatch();
         return writes;
     }
@@ -74,7 +74,7 @@ public final class RunKeeper {
 
     public int flush() {
         int had = table.size();
-        flushTableFrom(1);
+        flushTableIfItHas(1);
         return had;
     }
 
@@ -190,7 +190,7 @@ public final class RunKeeper {
             return aside.size();
         }
         appendToTable(write);
-        flushTableFrom(FULL_TABLE);
+        flushTableIfItHas(FULL_TABLE);
         return sequence;
     }
 
@@ -206,17 +206,16 @@ public final class RunKeeper {
         aside.cutTo(0);
     }
 
-    /** Flushes the table if it has so many entries or more. */
-    private void flushTableFrom(int least) {
+    private void flushTableIfItHas(int least) {
         if (table.size() >= least) {
-            table.sort();
+            table.sortAsRun();
             addRun(0, table);
             table.cutTo(0);
             safe = 0;
         }
     }
 
-    /** Adds the latest run of a level; without entries there is no run to add. */
+    // A run without entries is none.
     private void addRun(int level, Row sorted) {
         if (isLevel(level) && sorted.size() > 0) {
             levels[level].add(new Run(sorted));
@@ -239,7 +238,6 @@ public final class RunKeeper {
         }
     }
 
-    /** Does one step of merging, if there is one to do. */
     private boolean mergeOnce() {
         int upper = leastLevelToMerge();
         if (upper < 0) {
@@ -248,7 +246,7 @@ public final class RunKeeper {
         boolean nothingOlder = areEmptyFrom(upper + 1);
         gathered.cutTo(0);
         levels[upper].copyTo(gathered);
-        gathered.sort();
+        gathered.sortAsRun();
         keepWhatIsSeen(nothingOlder);
         levels[upper].clear();
         addRun(upper + 1, kept);
@@ -273,7 +271,7 @@ public final class RunKeeper {
         return true;
     }
 
-    /** Fills the row of kept entries from the gathered ones, which stand in the order of a run. */
+    // The gathered entries stand in the order of a run, so that those of one key are next to each other.
     private void keepWhatIsSeen(boolean nothingOlder) {
         kept.cutTo(0);
         for (int i = 0; i < gathered.size(); i++) {
@@ -289,12 +287,12 @@ public final class RunKeeper {
         }
     }
 
-    /** Says whether a view looks past the entry that stands before (newer, if it is of the same key). */
+    // The newest of a key is always seen; an older one only by a snapshot from before the next newer one.
     private boolean isSeen(Entry candidate, Entry before) {
         if (before == null || !candidate.hasKeyOf(before)) {
             return true;
         }
-        return snapshots.anyFromTo(candidate.sequence, before.sequence);
+        return snapshots.anyFromBelow(candidate.sequence, before.sequence);
     }
 
     private void requireKeyAndView(int snapshot, int key) {
@@ -307,7 +305,7 @@ public final class RunKeeper {
         return snapshot == NOW ? sequence : snapshots.sequenceAt(snapshot);
     }
 
-    /** Looks for a key in the order of the document, and notes the runs that were probed on the way. */
+    // The order is the document's, since count() tells of the runs that were probed on the way.
     private Entry look(int key, int asOf) {
         probed = 0;
         probedInVain = 0;
@@ -430,8 +428,8 @@ public final class RunKeeper {
             }
         }
 
-        /** Sorts into the order of a run, by insertion: rows are short, and it needs no second row. */
-        void sort() {
+        // By insertion: rows are short, and it needs no second row.
+        void sortAsRun() {
             for (int i = 1; i < size; i++) {
                 Entry moved = slots[i];
                 int place = i;
@@ -452,7 +450,7 @@ public final class RunKeeper {
             return false;
         }
 
-        /** The latest entry of a key up to a sequence, whatever the order of the row. */
+        // All entries are looked at, since the table is in the order of writing and runs are by keys.
         Entry latestOf(int key, int asOf) {
             Entry latest = null;
             for (int i = 0; i < size; i++) {
@@ -609,8 +607,7 @@ public final class RunKeeper {
             return taken;
         }
 
-        /** Says whether a snapshot is of a sequence from the first on and below the second. */
-        boolean anyFromTo(int from, int below) {
+        boolean anyFromBelow(int from, int below) {
             for (int number = 0; number < MOST_SNAPSHOTS; number++) {
                 if (used[number] && from <= sequences[number] && sequences[number] < below) {
                     return true;

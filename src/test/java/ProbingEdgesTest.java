@@ -19,12 +19,15 @@ public final class ProbingEdgesTest extends Edges {
                 test::theFilterHasTheKey,
                 test::eightBitsForEachEntryUpToAMultipleOf64,
                 test::severalEntriesOfOneKeyCountEach,
+                test::eachOfTheThreeBitsIsWanted,
+                test::theBitsOfAllKeysAreSet,
                 test::theLowest32BitsAreTaken,
                 test::bitsAreMovedWithoutSign,
                 test::nothingIsProbedBeforeTheFirstGet,
                 test::aGetOfNothingCounts,
                 test::aRefusedGetDoesNotCount,
                 test::onlyGetCounts,
+                test::aCrashIsNoGet,
                 test::inVainMeansOfWhateverSequence);
     }
 
@@ -233,6 +236,31 @@ public final class ProbingEdgesTest extends Edges {
         probesByTheFilter(0, 1023, 512, 512, 512, 512, 512, 512, 512, 512, 512, 512, 512, 512, 512, 512, 512, 512);
     }
 
+    private void eachOfTheThreeBitsIsWanted() {
+        due.by("bits of a key: (key * a >>> 12) % how many bits, with a 2654435761, 2246822519, 3266489917");
+        // The filter of the hundreds has two bits of each of these, and lacks the third.
+        int[] firstIsLacking = {109, 128, 145, 153, 181, 209};
+        int[] secondIsLacking = {106, 112, 156, 180, 184, 211};
+        int[] thirdIsLacking = {113, 119, 160, 190, 198, 213};
+        for (int[] keys : new int[][] {firstIsLacking, secondIsLacking, thirdIsLacking}) {
+            for (int key : keys) {
+                RunKeeper x = flushedHundreds();
+                due.refuses(NOTHING, () -> x.get(-1, key));
+                isProbed(x, 0, 0);
+            }
+        }
+    }
+
+    private void theBitsOfAllKeysAreSet() {
+        due.by("the bits of all its keys are set");
+        int[] keys = spread(39);
+        RunKeeper x = runOf(keys);
+        for (int key : keys) {
+            due.is(1, () -> x.get(-1, key));
+            isProbed(x, 1, 0);
+        }
+    }
+
     private void theLowest32BitsAreTaken() {
         due.by("of the product the lowest 32 bits are taken");
         // 192 and 320 bits: of a power of two the higher bits of the product would not matter.
@@ -309,6 +337,18 @@ public final class ProbingEdgesTest extends Edges {
         isProbed(x, 1, 1);
         due.is(200, () -> x.get(-1, 200));
         isProbed(x, 1, 0);
+    }
+
+    private void aCrashIsNoGet() {
+        due.by("RUNS that the latest get() PROBED");
+        RunKeeper x = flushedHundreds();
+        due.refuses(NOTHING, () -> x.get(-1, 114));
+        x.crash();
+        isProbed(x, 1, 1);
+        x.put(7, 7);
+        due.is(7, () -> x.get(-1, 7));
+        x.crash();
+        isProbed(x, 0, 0);
     }
 
     private void inVainMeansOfWhateverSequence() {
